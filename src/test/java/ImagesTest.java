@@ -1,0 +1,197 @@
+/** Promises 17 to 19: image, restore, count. */
+public final class ImagesTest {
+    private static final int OUTSIDE = -2, STATE = -3;
+
+    public static void main(String[] args) {
+        refused();
+        allIsAsItWas();
+        theImageStays();
+        twoImages();
+        lettersAreAsTheyWere();
+        settingsAndLinksAreAsTheyWere();
+        count();
+        Check.end();
+    }
+
+    private static void refused() {
+        MeshLamps x = new MeshLamps();
+        for (int bad : new int[] {-1, 2, Integer.MIN_VALUE, Integer.MAX_VALUE}) {
+            Check.due("image", x.image(bad), OUTSIDE);
+            Check.due("restore", x.restore(bad), OUTSIDE);
+        }
+        Check.due("restore: nothing kept", x.restore(0), STATE);
+        Check.due("image", x.image(1), 1);
+        Check.due("restore: nothing kept in this one", x.restore(0), STATE);
+        Check.due("restore", x.restore(1), 1);
+    }
+
+    /** Something of everything: letters in the air, kept, in mind and taken, sleepers, keys, counts. */
+    private static MeshLamps busy() {
+        MeshLamps x = new MeshLamps();
+        for (int lamp = 0; lamp < 9; lamp++) {
+            x.link(lamp, lamp + 1, 1);
+            x.set(lamp, 3, lamp);
+        }
+        x.set(3, 0, 4);
+        x.set(4, 1, 0);
+        x.set(5, 2, 1);
+        x.friend(1, 2);
+        x.sleep(1, 1);
+        x.friend(9, 8);
+        x.tell(3, 10, 31, 7);
+        x.tell(3, 1, 32, 3);
+        x.tell(9, 11, 33, 2);
+        x.sleep(9, 1);
+        x.settle();
+        x.phase();
+        x.give(2);
+        x.give(3);
+        x.phase();
+        x.tell(3, 12, 34, 7);
+        x.tell(2, 1, 35, 7);
+        x.tell(6, 7, 36, 7);
+        x.pass(2);
+        x.replay(4, 3, 1);
+        return x;
+    }
+
+    private static void disturb(MeshLamps x) {
+        x.settle();
+        x.link(0, 9, 1);
+        x.link(2, 3, 0);
+        x.friend(4, 5);
+        x.sleep(4, 1);
+        x.sleep(1, 0);
+        x.sleep(9, 0);
+        x.phase();
+        x.tell(3, 13, 77, 7);
+        x.tell(2, 3, 78, 7);
+        x.pass(3);
+        x.phase();
+        x.give(7);
+        x.set(0, 2, 0);
+        x.set(1, 0, 9);
+        x.set(2, 1, 0);
+        x.set(3, 3, 15);
+    }
+
+    private static void allIsAsItWas() {
+        MeshLamps x = busy();
+        Check.due("image", x.image(0), 1);
+        String was = Check.all(x);
+        disturb(x);
+        Check.due("something changed", !Check.all(x).equals(was));
+        Check.due("restore", x.restore(0), 1);
+        Check.same("restored", Check.all(x), was);
+        MeshLamps y = busy();
+        y.image(0);
+        disturb(x);
+        disturb(y);
+        Check.same("and goes on as if nothing had been", Check.all(x), Check.all(y));
+    }
+
+    private static void theImageStays() {
+        MeshLamps x = busy();
+        x.image(1);
+        String was = Check.all(x);
+        for (int times = 0; times < 3; times++) {
+            disturb(x);
+            x.restore(1);
+            Check.same("restored again", Check.all(x), was);
+        }
+        x.settle();
+        x.image(1);
+        String later = Check.all(x);
+        disturb(x);
+        x.restore(1);
+        Check.same("in place of what was kept", Check.all(x), later);
+    }
+
+    private static void twoImages() {
+        MeshLamps x = new MeshLamps();
+        Check.due("no images", x.count(9), 0);
+        x.image(1);
+        Check.due("image 1", x.count(9), 2);
+        x.pass(5);
+        x.image(0);
+        Check.due("both", x.count(9), 3);
+        x.pass(5);
+        x.restore(1);
+        Check.due("tick of image 1", x.count(0), 0);
+        Check.due("both stay", x.count(9), 3);
+        x.restore(0);
+        Check.due("tick of image 0", x.count(0), 5);
+        MeshLamps y = new MeshLamps();
+        y.image(0);
+        Check.due("image 0", y.count(9), 1);
+    }
+
+    private static void lettersAreAsTheyWere() {
+        MeshLamps x = new MeshLamps();
+        x.link(0, 1, 1);
+        x.tell(0, 1, 11, 1);
+        x.image(0);
+        x.tell(0, 1, 22, 1);
+        x.settle();
+        x.image(1);
+        x.restore(0);
+        Check.due("told after the image is not told", x.replay(1, 0, 2), OUTSIDE);
+        Check.due("the number is free again", x.tell(0, 2, 33, 1), 2);
+        x.settle();
+        Check.due("light", x.lamp(1, 0), 11);
+        x.replay(2, 0, 2);
+        x.settle();
+        Check.due("the new second letter", x.lamp(2, 0), 33);
+        x.restore(1);
+        x.replay(2, 0, 2);
+        x.settle();
+        Check.due("the old second letter is for another", x.lamp(2, 4), 0);
+        x.restore(1);
+        x.set(1, 2, 0);
+        Check.due("taken", x.taken(1, 0), 2);
+        Check.due("its light", x.lamp(1, 0), 22);
+    }
+
+    private static void settingsAndLinksAreAsTheyWere() {
+        MeshLamps x = busy();
+        x.image(0);
+        disturb(x);
+        x.restore(0);
+        Check.due("MIND", x.set(0, 2, 4), 4);
+        Check.due("WAIT", x.set(1, 0, 1), 1);
+        Check.due("PASSES", x.set(2, 1, 1), 1);
+        Check.due("GROUPS", x.set(3, 3, 3), 3);
+        Check.due("linked", x.link(2, 3, 1), 2);
+        Check.due("not linked", x.link(0, 9, 0), 1);
+        Check.due("friend", x.lamp(4, 2), -6);
+    }
+
+    private static void count() {
+        MeshLamps x = new MeshLamps();
+        x.link(0, 1, 1);
+        x.link(0, 2, 1);
+        x.set(1, 3, 1);
+        x.set(2, 3, 1);
+        x.tell(0, 10, 40, 2);
+        x.settle();
+        x.friend(3, 0);
+        x.friend(4, 0);
+        x.tell(3, 0, 1, 1);
+        x.sleep(3, 1);
+        x.sleep(4, 1);
+        x.replay(5, 0, 1);
+        x.pass(1);
+        x.phase();
+        x.phase();
+        x.phase();
+        x.phase();
+        x.image(0);
+        int[] due = {3, 1, 1, 1, 2, 80, 4, 0, 1, 1};
+        for (int what = 0; what < due.length; what++) {
+            Check.due("count(" + what + ")", x.count(what), due[what]);
+        }
+        for (int bad : new int[] {-1, 10, Integer.MIN_VALUE, Integer.MAX_VALUE}) {
+            Check.due("count: what", x.count(bad), OUTSIDE);
+        }
+    }
+}
