@@ -611,7 +611,7 @@ public final class MeshLamps {
         }
 
         void dropOldest(int most) {
-            int left = Math.max(most, 0);
+            int left = most > 0 ? most : 0;
             int gone = size - left;
             if (gone <= 0) {
                 return;
@@ -651,7 +651,7 @@ public final class MeshLamps {
             size++;
         }
 
-        // All that is due goes out before any of it is SPOKEN, so that its places are free for what is passed on.
+        // All that is due goes out before any of it is SPOKEN, so its places are free for what is then passed on.
         void moveDue(int now, Air due) {
             int all = size;
             size = 0;

@@ -8,8 +8,11 @@ public final class ImagesTest {
         theImageStays();
         twoImages();
         lettersAreAsTheyWere();
+        whatLettersSayIsAsItWas();
+        lossesAreAsTheyWere();
         settingsAndLinksAreAsTheyWere();
         count();
+        everyLampCounts();
         Check.end();
     }
 
@@ -152,6 +155,52 @@ public final class ImagesTest {
         Check.due("its light", x.lamp(1, 0), 22);
     }
 
+    private static void whatLettersSayIsAsItWas() {
+        MeshLamps x = new MeshLamps();
+        x.image(0);
+        x.tell(0, 9, 22, 1);
+        x.settle();
+        x.image(1);
+        x.restore(0);
+        x.phase();
+        x.give(0);
+        x.phase();
+        x.phase();
+        Check.due("the same number, by another KEY", x.tell(0, 9, 33, 1), 1);
+        x.settle();
+        x.restore(1);
+        x.replay(9, 0, 1);
+        x.settle();
+        Check.due("known by the KEY of then", x.lamp(9, 8), 1);
+        Check.due("with the VALUE of then", x.lamp(9, 0), 22);
+    }
+
+    private static void lossesAreAsTheyWere() {
+        MeshLamps x = new MeshLamps();
+        for (int lamp = 1; lamp < 10; lamp++) {
+            x.link(0, lamp, 1);
+            x.set(lamp, 2, 0);
+        }
+        x.friend(5, 0);
+        x.image(0);
+        String was = Check.all(x);
+        x.tell(5, 0, 1, 1);
+        x.sleep(5, 1);
+        x.settle();
+        x.sleep(5, 0);
+        for (int n = 1; n <= 8; n++) {
+            x.tell(0, 1, n, 2);
+        }
+        x.settle();
+        x.replay(1, 0, 1);
+        x.settle();
+        Check.due("lost as the air had 64", x.count(7), 72 - 64);
+        Check.due("lost as its lamp slept", x.count(8), 1);
+        Check.due("refused as old", x.lamp(1, 5), 1);
+        x.restore(0);
+        Check.same("none of these", Check.all(x), was);
+    }
+
     private static void settingsAndLinksAreAsTheyWere() {
         MeshLamps x = busy();
         x.image(0);
@@ -164,6 +213,28 @@ public final class ImagesTest {
         Check.due("linked", x.link(2, 3, 1), 2);
         Check.due("not linked", x.link(0, 9, 0), 1);
         Check.due("friend", x.lamp(4, 2), -6);
+    }
+
+    private static void everyLampCounts() {
+        MeshLamps x = new MeshLamps();
+        int lights = 0;
+        for (int lamp = 0; lamp < 10; lamp++) {
+            int other = (lamp + 1) % 10;
+            x.link(other, lamp, 1);
+            x.tell(other, lamp, 90 + lamp, 1);
+            x.settle();
+            lights += 90 + lamp;
+            Check.due("lights", x.count(5), lights);
+        }
+        for (int lamp = 0; lamp < 10; lamp++) {
+            x.friend(lamp, (lamp + 1) % 10);
+            x.sleep(lamp, 1);
+            Check.due("sleepers", x.count(4), lamp + 1);
+        }
+        for (int lamp = 0; lamp < 10; lamp++) {
+            x.sleep(lamp, 0);
+            Check.due("awake in turn", x.count(4), 9 - lamp);
+        }
     }
 
     private static void count() {

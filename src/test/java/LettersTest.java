@@ -22,6 +22,7 @@ public final class LettersTest {
         groups();
         sleepersLoseWhatTheySpeak();
         keptForWhom();
+        keptForEachLamp();
         lostAsFull();
         allGoesOutFirst();
         orderOfHearing();
@@ -398,6 +399,21 @@ public final class LettersTest {
         x.pass(1);
         Check.due("heard by the friend", x.lamp(1, 8), 3);
         Check.due("not kept for its source", x.lamp(2, 10), 0);
+    }
+
+    private static void keptForEachLamp() {
+        for (int lamp = 0; lamp < 10; lamp++) {
+            int friend = (lamp + 1) % 10;
+            int source = (lamp + 2) % 10;
+            MeshLamps x = new MeshLamps();
+            x.link(source, friend, 1);
+            x.friend(lamp, friend);
+            x.sleep(lamp, 1);
+            x.tell(source, lamp, 12, 1);
+            x.settle();
+            Check.due("kept for " + lamp, x.lamp(lamp, 10), 1);
+            Check.due("taken by " + lamp, x.sleep(lamp, 0), 1);
+        }
     }
 
     /** All ten linked with all, without minds. */
