@@ -332,9 +332,6 @@ public final class MeshLamps {
         final Letters letters = new Letters();
         final Air air = new Air();
 
-        // What is SPOKEN at one TICK; used again at each, and of no meaning between calls.
-        final Air due = new Air();
-
         int tick = 0;
         int key = 0;
         int phase = 0;
@@ -403,10 +400,25 @@ public final class MeshLamps {
 
         void passTick() {
             tick++;
-            air.moveDue(tick, due);
-            for (int i = 0; i < due.size; i++) {
-                speak(due.speaker[i], due.letter[i], due.steps[i]);
+            // What is passed on meanwhile comes behind these and is due later, so it needs no look at this TICK.
+            int all = air.size;
+            int at = 0;
+            for (int looked = 0; looked < all && at < air.size; looked++) {
+                if (air.tick[at] == tick) {
+                    speakFromAir(at);
+                } else {
+                    at++;
+                }
             }
+        }
+
+        // Each goes out at its own turn: what is due but not SPOKEN yet still counts among those in THE AIR.
+        void speakFromAir(int at) {
+            int speaker = air.speaker[at];
+            int letter = air.letter[at];
+            int steps = air.steps[at];
+            air.dropAt(at);
+            speak(speaker, letter, steps);
         }
 
         void speak(int speaker, int letter, int steps) {
@@ -651,15 +663,16 @@ public final class MeshLamps {
             size++;
         }
 
-        // All that is due goes out before any of it is SPOKEN, so its places are free for what is then passed on.
-        void moveDue(int now, Air due) {
-            int all = size;
-            size = 0;
-            due.size = 0;
-            for (int i = 0; i < all; i++) {
-                Air to = tick[i] == now ? due : this;
-                to.add(speaker[i], tick[i], letter[i], steps[i]);
+        void dropAt(int at) {
+            if (at < 0 || at >= size) {
+                return;
             }
+            size--;
+            int behind = size - at;
+            System.arraycopy(speaker, at + 1, speaker, at, behind);
+            System.arraycopy(tick, at + 1, tick, at, behind);
+            System.arraycopy(letter, at + 1, letter, at, behind);
+            System.arraycopy(steps, at + 1, steps, at, behind);
         }
 
         void become(Air other) {

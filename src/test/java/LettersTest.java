@@ -24,7 +24,10 @@ public final class LettersTest {
         keptForWhom();
         keptForEachLamp();
         lostAsFull();
-        allGoesOutFirst();
+        goesOutAtItsOwnTurn();
+        dueCountsTillItsTurn();
+        sleepersPlaceIsFreeAtItsTurn();
+        laterOnesKeepTheirPlaces();
         orderOfHearing();
         Check.end();
     }
@@ -444,19 +447,92 @@ public final class LettersTest {
         Check.due("lost", x.count(7), 8 + 4 * (64 * 8 - 64));
     }
 
-    private static void allGoesOutFirst() {
+    /** Lamp 0 linked with all others, and so many letters of it told with two steps. */
+    private static MeshLamps star(int letters) {
         MeshLamps x = new MeshLamps();
         for (int lamp = 1; lamp < 10; lamp++) {
             x.link(0, lamp, 1);
         }
-        for (int n = 1; n <= 64; n++) {
+        for (int n = 1; n <= letters; n++) {
             x.tell(0, 9, 1, 2);
         }
+        return x;
+    }
+
+    private static void goesOutAtItsOwnTurn() {
+        MeshLamps x = star(64);
+        Check.due("all are spoken", x.pass(1), 64);
+        Check.due("each frees one place and fills it", x.count(3), 64);
+        for (int i = 0; i < 64; i++) {
+            Check.due("passed on by the first hearer alone", x.air(i, 0), 1);
+            Check.due("one of each letter", x.air(i, 3), i + 1);
+            Check.due("at the next tick", x.air(i, 1), 2);
+        }
+        Check.due("what the other eight would pass on is lost", x.count(7), 64 * 8);
+        Check.due("but heard", x.lamp(9, 8), 64);
+    }
+
+    private static void dueCountsTillItsTurn() {
+        MeshLamps x = star(56);
         x.pass(1);
-        Check.due("places of what is yet to be spoken at this tick are free", x.count(3), 64);
-        Check.due("seven letters heard by nine, and the eighth by one", x.air(63, 3), 8);
-        Check.due("lost", x.count(7), 64 * 9 - 64);
-        Check.due("the rest in the order of the air", x.air(8, 3) * 10 + x.air(9, 3), 12);
+        Check.due("55 left and nine come: 64, none lost", x.air(8, 0) * 10 + x.air(8, 3), 91);
+        Check.due("then one for each", x.air(9, 0) * 10 + x.air(9, 3), 12);
+        Check.due("and again", x.air(10, 0) * 10 + x.air(10, 3), 13);
+        Check.due("in the end", x.count(3), 9 + 55);
+        Check.due("lost", x.count(7), 55 * 8);
+        x = star(57);
+        x.pass(1);
+        Check.due("56 left and nine come: one is lost", x.air(7, 0) * 10 + x.air(7, 3), 81);
+        Check.due("the ninth lamp's", x.air(8, 0) * 10 + x.air(8, 3), 12);
+        Check.due("lost", x.count(7), 1 + 56 * 8);
+        x = star(1);
+        for (int n = 1; n <= 63; n++) {
+            x.replay(9, 0, 1);
+        }
+        x.set(9, 1, 0);
+        Check.due("those who listen count, too", x.pass(1), 64);
+        Check.due("one of the first letter; all later ones are stale", x.count(3), 1);
+        Check.due("lost", x.count(7), 7);
+    }
+
+    private static void sleepersPlaceIsFreeAtItsTurn() {
+        MeshLamps x = star(0);
+        x.friend(9, 0);
+        x.tell(9, 0, 1, 1);
+        x.tell(0, 5, 1, 2);
+        for (int n = 1; n <= 62; n++) {
+            x.tell(9, 0, 1, 1);
+        }
+        x.sleep(9, 1);
+        Check.due("one is spoken", x.pass(1), 1);
+        Check.due("62 were still to be looked at: two places were free", x.count(3), 2);
+        Check.due("by the first", x.air(0, 0), 1);
+        Check.due("and the second", x.air(1, 0), 2);
+        Check.due("lost as the air had 64", x.count(7), 6);
+        Check.due("lost as their lamp slept", x.count(8), 63);
+    }
+
+    private static void laterOnesKeepTheirPlaces() {
+        MeshLamps x = new MeshLamps();
+        x.link(0, 1, 1);
+        x.link(2, 3, 1);
+        x.set(1, 0, 5);
+        x.tell(0, 9, 1, 3);
+        x.tell(2, 9, 1, 3);
+        x.tell(0, 9, 1, 3);
+        x.pass(1);
+        Check.due("the first waits longer", x.air(0, 0) * 10 + x.air(0, 1), 16);
+        Check.due("the second is due", x.air(1, 0) * 10 + x.air(1, 1), 32);
+        Check.due("the third waits longer", x.air(2, 0) * 10 + x.air(2, 1), 16);
+        Check.due("one is spoken", x.pass(1), 1);
+        Check.due("two are left", x.count(3), 2);
+        int[] first = {1, 6, 0, 1, 2};
+        int[] second = {1, 6, 0, 2, 2};
+        for (int what = 0; what <= 4; what++) {
+            Check.due("the first stays as it was " + what, x.air(0, what), first[what]);
+            Check.due("the third, too, and is the second now " + what, x.air(1, what), second[what]);
+        }
+        Check.due("the rest", x.settle(), 4);
     }
 
     private static void orderOfHearing() {

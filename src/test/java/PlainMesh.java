@@ -219,8 +219,8 @@ final class PlainMesh {
         for (Speech speech : air) {
             if (speech.tick == tick) due.add(speech);
         }
-        air.removeIf(speech -> speech.tick == tick);
         for (Speech speech : due) {
+            removeFromAir(speech);
             Lamp it = lamps[speech.lamp];
             Set<Integer> hearers = new TreeSet<>(it.linked);
             if (speech.listener) {
@@ -234,6 +234,16 @@ final class PlainMesh {
             spoken++;
             for (int hearer : hearers) {
                 if (!lamps[hearer].sleeps) hear(hearer, speech.letter, speech.steps);
+            }
+        }
+    }
+
+    /** By identity: two speeches may be alike in all (a replay done twice), and each has its own place. */
+    private void removeFromAir(Speech speech) {
+        for (int i = 0; i < air.size(); i++) {
+            if (air.get(i) == speech) {
+                air.remove(i);
+                return;
             }
         }
     }
