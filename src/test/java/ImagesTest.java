@@ -28,36 +28,6 @@ public final class ImagesTest {
         Check.due("restore", x.restore(1), 1);
     }
 
-    /** Something of everything: letters in the air, kept, in mind and taken, sleepers, keys, counts. */
-    private static MeshLamps busy() {
-        MeshLamps x = new MeshLamps();
-        for (int lamp = 0; lamp < 9; lamp++) {
-            x.link(lamp, lamp + 1, 1);
-            x.set(lamp, 3, lamp);
-        }
-        x.set(3, 0, 4);
-        x.set(4, 1, 0);
-        x.set(5, 2, 1);
-        x.friend(1, 2);
-        x.sleep(1, 1);
-        x.friend(9, 8);
-        x.tell(3, 10, 31, 7);
-        x.tell(3, 1, 32, 3);
-        x.tell(9, 11, 33, 2);
-        x.sleep(9, 1);
-        x.settle();
-        x.phase();
-        x.give(2);
-        x.give(3);
-        x.phase();
-        x.tell(3, 12, 34, 7);
-        x.tell(2, 1, 35, 7);
-        x.tell(6, 7, 36, 7);
-        x.pass(2);
-        x.replay(4, 3, 1);
-        return x;
-    }
-
     private static void disturb(MeshLamps x) {
         x.settle();
         x.link(0, 9, 1);
@@ -78,36 +48,46 @@ public final class ImagesTest {
         x.set(3, 3, 15);
     }
 
+    private static MeshLamps keptIn(int k) {
+        MeshLamps x = Scenes.busy();
+        x.image(k);
+        return x;
+    }
+
+    private static MeshLamps disturbed(MeshLamps x) {
+        disturb(x);
+        return x;
+    }
+
+    private static MeshLamps disturbedAndRestored(MeshLamps x, int k) {
+        disturb(x);
+        Check.due("restore", x.restore(k), 1);
+        return x;
+    }
+
     private static void allIsAsItWas() {
-        MeshLamps x = busy();
-        Check.due("image", x.image(0), 1);
-        String was = Check.all(x);
-        disturb(x);
-        Check.due("something changed", !Check.all(x).equals(was));
-        Check.due("restore", x.restore(0), 1);
-        Check.same("restored", Check.all(x), was);
-        MeshLamps y = busy();
-        y.image(0);
-        disturb(x);
-        disturb(y);
-        Check.same("and goes on as if nothing had been", Check.all(x), Check.all(y));
+        String was = State.of(() -> keptIn(0));
+        String other = State.of(() -> disturbed(keptIn(0)));
+        Check.due("something changed", !other.equals(was));
+        Check.same("restored", State.of(() -> disturbedAndRestored(keptIn(0), 0)), was);
+        Check.same("and goes on as if nothing had been",
+            State.of(() -> disturbed(disturbedAndRestored(keptIn(0), 0))), other);
     }
 
     private static void theImageStays() {
-        MeshLamps x = busy();
-        x.image(1);
-        String was = Check.all(x);
-        for (int times = 0; times < 3; times++) {
-            disturb(x);
-            x.restore(1);
-            Check.same("restored again", Check.all(x), was);
-        }
+        String was = State.of(() -> keptIn(1));
+        Check.same("restored again and again",
+            State.of(() -> disturbedAndRestored(disturbedAndRestored(keptIn(1), 1), 1)), was);
+        String later = State.of(ImagesTest::keptTwice);
+        Check.due("it is another state", !later.equals(was));
+        Check.same("in place of what was kept", State.of(() -> disturbedAndRestored(keptTwice(), 1)), later);
+    }
+
+    private static MeshLamps keptTwice() {
+        MeshLamps x = keptIn(1);
         x.settle();
         x.image(1);
-        String later = Check.all(x);
-        disturb(x);
-        x.restore(1);
-        Check.same("in place of what was kept", Check.all(x), later);
+        return x;
     }
 
     private static void twoImages() {
@@ -175,15 +155,18 @@ public final class ImagesTest {
         Check.due("with the VALUE of then", x.lamp(9, 0), 22);
     }
 
-    private static void lossesAreAsTheyWere() {
-        MeshLamps x = new MeshLamps();
+    private static MeshLamps beforeLosses() {
+        MeshLamps x = Scenes.star();
         for (int lamp = 1; lamp < 10; lamp++) {
-            x.link(0, lamp, 1);
             x.set(lamp, 2, 0);
         }
         x.friend(5, 0);
         x.image(0);
-        String was = Check.all(x);
+        return x;
+    }
+
+    private static MeshLamps withLosses() {
+        MeshLamps x = beforeLosses();
         x.tell(5, 0, 1, 1);
         x.sleep(5, 1);
         x.settle();
@@ -194,15 +177,23 @@ public final class ImagesTest {
         x.settle();
         x.replay(1, 0, 1);
         x.settle();
+        return x;
+    }
+
+    private static void lossesAreAsTheyWere() {
+        MeshLamps x = withLosses();
         Check.due("lost as the air had 64", x.count(7), 72 - 64);
         Check.due("lost as its lamp slept", x.count(8), 1);
         Check.due("refused as old", x.lamp(1, 5), 1);
-        x.restore(0);
-        Check.same("none of these", Check.all(x), was);
+        Check.same("none of these", State.of(() -> {
+            MeshLamps y = withLosses();
+            y.restore(0);
+            return y;
+        }), State.of(ImagesTest::beforeLosses));
     }
 
     private static void settingsAndLinksAreAsTheyWere() {
-        MeshLamps x = busy();
+        MeshLamps x = Scenes.busy();
         x.image(0);
         disturb(x);
         x.restore(0);

@@ -1,7 +1,11 @@
 import java.util.Random;
 
-/** Random runs, the same each time, of all calls with right and wrong numbers: MeshLamps against PlainMesh. */
+/**
+ * Random runs, the same each time, of all calls with right and wrong numbers: MeshLamps against PlainMesh. An object is
+ * used for 512 calls, as the document says nothing of later ones.
+ */
 public final class ModelTest {
+    private static final int CALLS = 512;
     private static final int[] FAR = {Integer.MIN_VALUE, Integer.MAX_VALUE, -1, -6, -7, 1000, 1 << 30};
 
     private static Random random;
@@ -11,37 +15,57 @@ public final class ModelTest {
     private static int wrongs;
 
     public static void main(String[] args) {
-        for (int seed = 0; seed < 600; seed++) {
-            run(seed, 512);
-        }
-        for (int seed = 600; seed < 606; seed++) {
-            run(seed, 20000);
+        for (int seed = 0; seed < 1500; seed++) {
+            run(seed);
         }
         Check.end();
     }
 
-    private static void run(int seed, int calls) {
+    private static void run(int seed) {
         random = new Random(seed);
         real = new MeshLamps();
         plain = new PlainMesh();
         lamps = 2 + random.nextInt(9);
         wrongs = new int[] {0, 5, 30}[random.nextInt(3)];
+        int talk = random.nextInt(4) == 0 ? 60 : 0;
+        for (int i = prepare(); i < CALLS; i++) {
+            if (random.nextInt(100) < talk) {
+                talk(seed + "." + i + " ");
+            } else {
+                call(seed + "." + i + " ");
+            }
+        }
+    }
+
+    /** Links lamps, and takes minds away now and then: how many calls that took. */
+    private static int prepare() {
         boolean noMinds = random.nextInt(4) == 0;
         boolean crowded = random.nextInt(2) == 0;
+        int calls = 0;
         for (int one = 0; one < lamps; one++) {
             for (int other = one + 1; other < lamps; other++) {
                 if (crowded || random.nextInt(3) == 0) {
-                    real.link(one, other, 1);
-                    plain.link(one, other, 1);
+                    Check.due("link", real.link(one, other, 1), plain.link(one, other, 1));
+                    calls++;
                 }
             }
             if (noMinds) {
-                real.set(one, 2, 0);
-                plain.set(one, 2, 0);
+                Check.due("set", real.set(one, 2, 0), plain.set(one, 2, 0));
+                calls++;
             }
         }
-        for (int i = 0; i < calls; i++) {
-            call(seed + "." + i + " ");
+        return calls;
+    }
+
+    /** Mostly lamp 0 tells, so that it comes to 200 letters. */
+    private static void talk(String at) {
+        if (random.nextInt(10) == 0) {
+            Check.due(at + "settle", real.settle(), plain.settle());
+        } else {
+            int a = someLamp();
+            int b = some(0, 99);
+            int c = some(1, 7);
+            Check.due(at + "tell", real.tell(0, a, b, c), plain.tell(0, a, b, c));
         }
     }
 
