@@ -540,10 +540,11 @@ public final class AirEdgesTest {
         x.link(0, 1, 1);
         int[] values = {99, 0, 1, 1};
         for (int n = 1; n <= 4; n++) {
+            x.tell(0, 2, 50, 1);
             x.tell(0, 1, values[n - 1], 1);
             x.settle();
             Check.due("LIGHT", x.lamp(1, 0), values[n - 1]);
-            Check.due("the greatest", x.taken(1, 0), n);
+            Check.due("the greatest, others between left out", x.taken(1, 0), 2 * n);
             Check.due("taken, even if the LIGHT is the same", x.lamp(1, 4), n);
         }
     }

@@ -13,17 +13,35 @@ public final class FaceTest {
         "settle/0", "lamp/2", "taken/2", "mind/3", "air/2", "image/1", "restore/1", "count/1"};
 
     public static void main(String[] args) throws IllegalAccessException {
+        Check.sentences(FaceTest.class);
+        Check.end();
+    }
+
+    @Says(in = "The public face", text = "public final class MeshLamps {")
+    private static void theClass() {
         Check.due("public and final", MeshLamps.class.getModifiers(), Modifier.PUBLIC | Modifier.FINAL);
+        for (Class<?> inside : MeshLamps.class.getDeclaredClasses()) {
+            Check.due(inside + " is static", Modifier.isStatic(inside.getModifiers()));
+        }
+    }
+
+    @Says(in = "The public face",
+        text = "public static final int UNKNOWN = -1, OUTSIDE = -2, STATE = -3, FULL = -4, NO = -5, NONE = -6;")
+    private static void theConstants() throws IllegalAccessException {
         Check.same("constants", constants().toString(), new TreeSet<>(Set.of(CONSTANTS)).toString());
-        Check.same("methods", methods().toString(), new TreeSet<>(Set.of(METHODS)).toString());
+    }
+
+    @Says(in = "The public face", text = "public MeshLamps();")
+    private static void theConstructor() {
         Constructor<?>[] made = MeshLamps.class.getDeclaredConstructors();
         Check.due("one constructor", made.length, 1);
         Check.due("without arguments", made[0].getParameterCount(), 0);
         Check.due("public", Modifier.isPublic(made[0].getModifiers()));
-        for (Class<?> inside : MeshLamps.class.getDeclaredClasses()) {
-            Check.due(inside + " is static", Modifier.isStatic(inside.getModifiers()));
-        }
-        Check.end();
+    }
+
+    @Says(in = "The public face", text = "public int ")
+    private static void theMethods() {
+        Check.same("methods", methods().toString(), new TreeSet<>(Set.of(METHODS)).toString());
     }
 
     private static Set<String> constants() throws IllegalAccessException {

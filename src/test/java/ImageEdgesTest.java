@@ -188,6 +188,74 @@ public final class ImageEdgesTest {
         Check.due("tells again", x.tell(0, 9, 0, 1), 1);
     }
 
+    @Says(in = "Promise 18", text = "All but IMAGES is as it was when it was kept; the IMAGE stays: 1.")
+    private static void p18LettersAreAsTheyWere() {
+        MeshLamps x = new MeshLamps();
+        x.image(0);
+        x.tell(0, 8, 22, 1);
+        x.image(1);
+        x.restore(0);
+        x.phase();
+        x.give(0);
+        x.phase();
+        x.phase();
+        Check.due("the same NUMBER, with another KEY, AIM and VALUE", x.tell(0, 9, 33, 1), 1);
+        x.restore(1);
+        x.replay(8, 0, 1);
+        x.replay(9, 0, 1);
+        x.settle();
+        Check.due("the KEY of then", x.lamp(8, 8), 1);
+        Check.due("the AIM of then", x.lamp(8, 4) * 10 + x.lamp(9, 4), 10);
+        Check.due("the VALUE of then", x.lamp(8, 0), 22);
+    }
+
+    @Says(in = "Promise 18", text = "All but IMAGES is as it was when it was kept; the IMAGE stays: 1.")
+    private static void p18LossesAreAsTheyWere() {
+        MeshLamps x = Scenes.star();
+        x.friend(5, 0);
+        x.image(0);
+        for (int n = 1; n <= 9; n++) {
+            x.tell(0, 9, n, 2);
+        }
+        x.tell(5, 0, 1, 1);
+        x.sleep(5, 1);
+        x.settle();
+        int full = x.count(7);
+        Check.due("some were lost as the air had 64", full > 0);
+        Check.due("one as its lamp slept", x.count(8), 1);
+        x.image(1);
+        x.restore(0);
+        Check.due("none", x.count(7) + x.count(8), 0);
+        x.restore(1);
+        Check.due("as the air had 64", x.count(7), full);
+        Check.due("as its lamp slept", x.count(8), 1);
+    }
+
+    @Says(in = "Promise 18", text = "All but IMAGES is as it was when it was kept; the IMAGE stays: 1.")
+    private static void p18WhatWasTakenIsAsItWas() {
+        MeshLamps x = new MeshLamps();
+        for (int one = 0; one < 10; one++) {
+            x.set(one, 3, 1);
+            for (int other = 0; other < one; other++) {
+                x.link(one, other, 1);
+            }
+        }
+        x.image(0);
+        for (int source = 0; source < 10; source++) {
+            x.tell(source, 10, source, 1);
+        }
+        x.settle();
+        x.image(1);
+        for (int k = 0; k <= 1; k++) {
+            x.restore(k);
+            for (int lamp = 0; lamp < 10; lamp++) {
+                for (int source = 0; source < 10; source++) {
+                    Check.due("taken by " + lamp + " of " + source, x.taken(lamp, source), lamp == source ? 0 : k);
+                }
+            }
+        }
+    }
+
     @Says(in = "Promise 18", text = "OUTSIDE; STATE: nothing was kept in it.")
     private static void p18Outside() {
         MeshLamps x = busyWithBoth();

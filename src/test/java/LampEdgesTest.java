@@ -216,6 +216,8 @@ public final class LampEdgesTest {
         y.replay(5, 1, 1);
         y.pass(1);
         Check.due("the last one of a lamp and the first one of the next", y.lamp(5, 8), 2);
+        Check.due("the last one", y.mind(5, 0, 0) * 1000 + y.mind(5, 0, 1), 200);
+        Check.due("the first one", y.mind(5, 1, 0) * 1000 + y.mind(5, 1, 1), 1001);
     }
 
     @Says(in = "Terms 1", text = "A LAMP is MEANT by a LETTER, if it is the AIM, or has the GROUP that is the AIM.")

@@ -13,7 +13,7 @@ import java.util.Map;
  */
 public final class Quotes {
     private static final Class<?>[] TESTS = {LampEdgesTest.class, KeyEdgesTest.class, AirEdgesTest.class,
-        LetterEdgesTest.class, ToldEdgesTest.class, ImageEdgesTest.class, RefusalsTest.class};
+        LetterEdgesTest.class, ToldEdgesTest.class, ImageEdgesTest.class, RefusalsTest.class, FaceTest.class};
 
     public static void main(String[] args) throws IOException {
         Map<String, String> sections = sections(Files.readAllLines(Path.of("../shared/DOC.md")));

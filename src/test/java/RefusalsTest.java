@@ -102,6 +102,7 @@ public final class RefusalsTest {
         Check.due("it had none, but the other one is no lamp", x.friend(0, 10), OUTSIDE);
         Check.due("it had none, but they are one", x.friend(0, 0), OUTSIDE);
         Check.due("no such lamp, so none that it had", x.friend(10, 0), UNKNOWN);
+        Check.due("no such lamp, and NONE", x.friend(10, NONE), UNKNOWN);
         Check.due("not refused: it had none", x.friend(0, NONE), NONE);
     }
 
